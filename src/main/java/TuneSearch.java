@@ -60,9 +60,9 @@ public final class TuneSearch {
         current = new Word();
         spare = new Word();
         signs = new Signs();
-        ways = new Ways(prices);
+        ways = new Ways();
         finds = new Finds();
-        carrier = new Carrier(prices);
+        carrier = new Carrier();
         familyHeads = new int[TUNES];
     }
 
@@ -151,7 +151,7 @@ public final class TuneSearch {
         }
         finds.count = 0;
         for (int t = 0; t < tuneCount; t++) {
-            ways.seekEnds(asked, tunes[t], shifts, most);
+            ways.seekEnds(prices, asked, tunes[t], shifts, most);
             addEnds(t, most);
         }
         return finds.count;
@@ -171,7 +171,7 @@ public final class TuneSearch {
         if (shift < -WIDEST_SHIFT || shift > WIDEST_SHIFT) {
             return BAD;
         }
-        return ways.wholeCost(tunes[a], tunes[b], shift, Ways.BEYOND);
+        return ways.wholeCost(prices, tunes[a], tunes[b], shift, Ways.BEYOND);
     }
 
     public long freight(int a, int b) {
@@ -179,7 +179,7 @@ public final class TuneSearch {
             return NONE;
         }
         carrier.load(tunes[a], tunes[b]);
-        return carrier.leastCost();
+        return carrier.leastCost(prices);
     }
 
     public long share(int a, int b) throws IndexOutOfBoundsException, ArithmeticException {
@@ -191,7 +191,7 @@ public final class TuneSearch {
         if (going == 0) {
             throw new ArithmeticException("no unit goes");
         }
-        return PER_MILLE * carrier.leastCost() / going;
+        return PER_MILLE * carrier.leastCost(prices) / going;
     }
 
     public int families(int most) {
@@ -282,7 +282,7 @@ public final class TuneSearch {
     }
 
     private boolean areNear(NoteRow a, NoteRow b, int most) {
-        return ways.wholeCost(a, b, 0, most) <= most || ways.wholeCost(b, a, 0, most) <= most;
+        return ways.wholeCost(prices, a, b, 0, most) <= most || ways.wholeCost(prices, b, a, 0, most) <= most;
     }
 
     private void joinFamilies(int one, int other) {
@@ -311,6 +311,14 @@ public final class TuneSearch {
 
         boolean isRest(int n) {
             return pitches[n] == REST;
+        }
+
+        int lengthOfAll() {
+            int sum = 0;
+            for (int n = 0; n < count; n++) {
+                sum += lengths[n];
+            }
+            return sum;
         }
 
         void append(int pitch, int length) {
@@ -488,13 +496,15 @@ public final class TuneSearch {
         }
 
         void addChoice(Part other) {
-            become(empty || other.empty, first | other.first, last | other.last);
+            empty = empty || other.empty;
+            first |= other.first;
+            last |= other.last;
         }
 
         void addBehind(Part next) {
-            long begins = empty ? first | next.first : first;
-            long ends = next.empty ? last | next.last : next.last;
-            become(empty && next.empty, begins, ends);
+            first = empty ? first | next.first : first;
+            last = next.empty ? last | next.last : next.last;
+            empty = empty && next.empty;
         }
     }
 
@@ -802,25 +812,22 @@ public final class TuneSearch {
         private static final int FAR = Integer.MAX_VALUE;
         private static final int SEVERAL = 4;
 
-        private final int[] prices;
         private final int[][] cells = new int[NOTES + 1][NOTES + 1];
-        /** What each note of the first row costs with each of the second, lengths aside, times 32. */
+        /** What each note of the first row costs with each of the second, lengths aside; like the prices times 32. */
         private final int[][] pairs = new int[NOTES][NOTES];
         private final int[] endCells = new int[NOTES + 1];
         private final int[] endShifts = new int[NOTES + 1];
+        private int pitchPrice;
+        private int restPrice;
+        private int lengthPrice;
         private int firstAlone;
         private int secondAlone;
-        private int lengthPrice;
         /** Ways above it are not gone on with: they cost more than is asked for. */
         private int limit;
 
-        Ways(int[] prices) {
-            this.prices = prices;
-        }
-
         /** The distance of two whole rows if it is most at most, else some number above most. */
-        int wholeCost(NoteRow a, NoteRow b, int shift, int most) {
-            begin(most);
+        int wholeCost(int[] prices, NoteRow a, NoteRow b, int shift, int most) {
+            begin(prices, most);
             clearCells(a, b);
             cells[0][0] = 0;
             goThrough(a, b, shift);
@@ -828,8 +835,9 @@ public final class TuneSearch {
         }
 
         /** Seeks the cheapest way to each end in the tune; one that costs more than most may stay unseen. */
-        void seekEnds(NoteRow asked, NoteRow tune, int shifts, int most) {
-            begin(most);
+        void seekEnds(int[] prices, NoteRow asked, NoteRow tune, int shifts, int most) {
+            // To take all of the query alone is a way to each end: a dearer one is never the cheapest.
+            begin(prices, Math.min(most, prices[PRICE_ALONE_FIRST] * asked.lengthOfAll()));
             Arrays.fill(endCells, FAR);
             // Shifts come in the order in which they win at like costs.
             for (int wide = 0; wide <= shifts; wide++) {
@@ -852,10 +860,12 @@ public final class TuneSearch {
             return endShifts[end];
         }
 
-        private void begin(int most) {
+        private void begin(int[] prices, int most) {
+            pitchPrice = prices[PRICE_PITCH] * UNIT;
+            restPrice = prices[PRICE_REST] * UNIT;
+            lengthPrice = prices[PRICE_LENGTH] * UNIT;
             firstAlone = prices[PRICE_ALONE_FIRST] * UNIT;
             secondAlone = prices[PRICE_ALONE_SECOND] * UNIT;
-            lengthPrice = prices[PRICE_LENGTH] * UNIT;
             limit = Math.min(most, BEYOND) * UNIT + UNIT - 1;
         }
 
@@ -885,7 +895,7 @@ public final class TuneSearch {
         private void goThrough(NoteRow a, NoteRow b, int shift) {
             for (int i = 0; i < a.count; i++) {
                 for (int j = 0; j < b.count; j++) {
-                    pairs[i][j] = pairCost(a.pitches[i], b.pitches[j], shift) * UNIT;
+                    pairs[i][j] = pairCost(a.pitches[i], b.pitches[j], shift);
                 }
             }
             for (int i = 0; i <= a.count; i++) {
@@ -902,9 +912,9 @@ public final class TuneSearch {
                 return 0;
             }
             if (pitchInA == REST || pitchInB == REST) {
-                return prices[PRICE_REST];
+                return restPrice;
             }
-            return prices[PRICE_PITCH] * Math.abs(pitchInA + shift - pitchInB);
+            return pitchPrice * Math.abs(pitchInA + shift - pitchInB);
         }
 
         private void stepOn(NoteRow a, NoteRow b, int i, int j) {
@@ -924,21 +934,26 @@ public final class TuneSearch {
         }
 
         private void stepWithSeveralOfB(NoteRow a, NoteRow b, int i, int j) {
+            int[] pairsOfOne = pairs[i];
+            int[] behindOne = cells[i + 1];
             int cost = cells[i][j];
             int lengths = a.lengths[i];
             int stop = Math.min(b.count, j + SEVERAL);
             for (int taken = j; taken < stop && cost <= limit; taken++) {
-                cost += pairs[i][taken];
+                cost += pairsOfOne[taken];
                 lengths -= b.lengths[taken];
-                offer(i + 1, taken + 1, cost + lengthPrice * Math.abs(lengths));
+                int cell = cost + lengthPrice * Math.abs(lengths);
+                if (cell < behindOne[taken + 1]) {
+                    behindOne[taken + 1] = cell;
+                }
             }
         }
 
         private void stepWithSeveralOfA(NoteRow a, NoteRow b, int i, int j) {
-            int cost = cells[i][j];
-            int lengths = b.lengths[j];
+            int cost = cells[i][j] + pairs[i][j];
+            int lengths = b.lengths[j] - a.lengths[i];
             int stop = Math.min(a.count, i + SEVERAL);
-            for (int taken = i; taken < stop && cost <= limit; taken++) {
+            for (int taken = i + 1; taken < stop && cost <= limit; taken++) {
                 cost += pairs[taken][j];
                 lengths -= a.lengths[taken];
                 offer(taken + 1, j + 1, cost + lengthPrice * Math.abs(lengths));
@@ -989,7 +1004,6 @@ public final class TuneSearch {
         private static final int UNREACHED = -1;
         private static final int FAR = Integer.MAX_VALUE;
 
-        private final int[] prices;
         private final Load givers = new Load();
         private final Load takers = new Load();
         private final int[][] unitCosts = new int[NOTES][NOTES];
@@ -1002,10 +1016,6 @@ public final class TuneSearch {
         private final int[] giverVia = new int[NOTES];
         private final int[] takerVia = new int[NOTES];
         private final boolean[] takerDone = new boolean[NOTES];
-
-        Carrier(int[] prices) {
-            this.prices = prices;
-        }
 
         void load(NoteRow a, NoteRow b) {
             givers.fill(a);
@@ -1021,8 +1031,8 @@ public final class TuneSearch {
         }
 
         /** To be asked once behind load, as it uses up what is left. */
-        long leastCost() {
-            begin();
+        long leastCost(int[] prices) {
+            begin(prices);
             for (int g = 0; g < givers.count; g++) {
                 sendAll(g);
             }
@@ -1035,7 +1045,7 @@ public final class TuneSearch {
             return cost;
         }
 
-        private void begin() {
+        private void begin(int[] prices) {
             for (int g = 0; g < givers.count; g++) {
                 for (int t = 0; t < takers.count; t++) {
                     int apart = Math.abs(givers.begins[g] - takers.begins[t]);
