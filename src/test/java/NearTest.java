@@ -84,7 +84,7 @@ public final class NearTest {
         Runs.tune(y, 60, 1, 64, 1);
         Runs.query(y, 62, 1, 62, 1);
         y.near(10, 24);
-        // 62 62 to 60 64 costs 4 by every shift from -2 to 2: 0 is nearest. 62 62 to 60 alone: both joined, 1 of length.
+        // 62 62 to 60 64 costs 4 by every shift from -2 to 2: 0 is nearest.
         Check.due("of like costs the shift nearest to 0", Runs.found(y), "0:0:2:4:0");
         Runs.query(y, 61, 1, 63, 1);
         y.near(10, 24);
@@ -161,8 +161,8 @@ public final class NearTest {
         Runs.tune(x, 60, 1);
         Runs.query(x, 61, 1);
         x.near(0, 1);
-        int[][] bad = {{-1, 0}, {Integer.MIN_VALUE, 0}, {0, -1}, {0, 25}, {0, Integer.MIN_VALUE}, {0, Integer.MAX_VALUE},
-            {-1, 25}};
+        int[][] bad = {{-1, 0}, {Integer.MIN_VALUE, 0}, {0, -1}, {0, 25}, {0, Integer.MIN_VALUE},
+            {0, Integer.MAX_VALUE}, {-1, 25}};
         for (int[] pair : bad) {
             Check.due("near(" + pair[0] + ", " + pair[1] + ")", x.near(pair[0], pair[1]), TuneSearch.BAD);
         }

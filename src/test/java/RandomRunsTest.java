@@ -2,8 +2,11 @@ import java.util.Random;
 
 /** Random runs of a fixed seed: TuneSearch and SlowTunes must answer alike at every call. */
 public final class RandomRunsTest {
+    /** The first ATOMS of them are whole atoms. */
     private static final String[] PIECES = {"1", "0", "-1", "60", "61", "2", "-2", "3", ".", "r", "[0,2]", "[-3,0]",
-        "[60,62]", "(", ")", "(", ")", "|", "*", "+", "?", " ", "*", "?", "[", "]", ",", "-", "1000", "x", "(1|", "[2,1]"};
+        "[60,62]", "(", ")", "(", ")", "|", "*", "+", "?", " ", "*", "?", "[", "]", ",", "-", "1000", "x", "(1|",
+        "[2,1]"};
+    private static final int ATOMS = 13;
 
     private final Random random;
     private final TuneSearch fast = new TuneSearch();
@@ -147,7 +150,7 @@ public final class RandomRunsTest {
             if (depth > 0 && pick(3) == 0) {
                 s.append('(').append(aText(depth - 1)).append(')');
             } else {
-                s.append(PIECES[pick(13)]);
+                s.append(PIECES[pick(ATOMS)]);
             }
             if (pick(3) == 0) {
                 s.append("*+?".charAt(pick(3)));

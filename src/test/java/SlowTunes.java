@@ -232,7 +232,7 @@ final class SlowTunes {
 
         Node seq(int depth) {
             List<Node> parts = new ArrayList<>();
-            while (isNumber(peek()) || peek().equals(".") || peek().equals("r") || peek().equals("[") || peek().equals("(")) {
+            while (isNumber(peek()) || (!peek().isEmpty() && ".r[(".contains(peek()))) {
                 Node atom = atom(depth);
                 String how = peek();
                 if (how.equals("*") || how.equals("+") || how.equals("?")) {

@@ -24,7 +24,8 @@ public final class TunesTest {
         for (int k = 0; k < 8; k++) {
             Check.due("price(" + k + ", 1) at first", x.price(k, 1), 1);
         }
-        Check.dueThrow("found(0, 0) of a new object", () -> new TuneSearch().found(0, 0), IndexOutOfBoundsException.class);
+        Check.dueThrow("found(0, 0) of a new object", () -> new TuneSearch().found(0, 0),
+            IndexOutOfBoundsException.class);
     }
 
     private static void tunes() {

@@ -150,6 +150,10 @@ public final class WordTest {
         dueFault("[[1,2]]", 1, 2);
         dueFault("[1|2]", 2, 2);
         dueFault("[1,2*]", 4, 2);
+        // A full tape of one-byte tokens: its end is the 161st thing that is read.
+        dueFault("()".repeat(79) + "|(", 160, 2);
+        dueFault("()".repeat(79) + "|[", 160, 2);
+        dueFault("(" + " ".repeat(159), 160, 2);
     }
 
     private static void faultsOfRanges() {
