@@ -5,25 +5,41 @@ final class Check {
         long answer();
     }
 
+    private static String sentence = "";
+    private static int sentences = 0;
     private static int looked = 0;
     private static int wrong = 0;
 
     private Check() {
     }
 
+    /** Runs the test of one sentence of the document: what is wrong is told with the sentence before it. */
+    static void sentence(String text, Runnable test) {
+        sentence = "<" + text + "> ";
+        sentences++;
+        int before = looked;
+        try {
+            test.run();
+        } catch (RuntimeException e) {
+            tellWrong("the test ended by " + e);
+        }
+        if (looked == before) {
+            tellWrong("the test looked at no answer");
+        }
+        sentence = "";
+    }
+
     static void due(String call, long got, long want) {
         looked++;
         if (got != want) {
-            wrong++;
-            System.out.println(call + " answered " + got + ", due is " + want);
+            tellWrong(call + " answered " + got + ", due is " + want);
         }
     }
 
     static void due(String call, String got, String want) {
         looked++;
         if (!got.equals(want)) {
-            wrong++;
-            System.out.println(call + " answered " + got + ", due is " + want);
+            tellWrong(call + " answered " + got + ", due is " + want);
         }
     }
 
@@ -41,9 +57,14 @@ final class Check {
     }
 
     static void end() {
-        System.out.println(looked + " answers looked at, " + wrong + " wrong");
+        System.out.println(sentences + " sentences, " + looked + " answers looked at, " + wrong + " wrong");
         if (wrong != 0) {
             System.exit(1);
         }
+    }
+
+    private static void tellWrong(String what) {
+        wrong++;
+        System.out.println(sentence + what);
     }
 }

@@ -1,126 +1,143 @@
-/** Promise 13, and with it the ways (3): distance. */
+/** Promise 13: distance. */
 public final class DistanceTest {
+    private static final int[] NO_TUNES = {-1, 2, 7, 8, Integer.MIN_VALUE, Integer.MAX_VALUE};
+
     public static void main(String[] args) {
-        stepsAlone();
-        stepsTogether();
-        joinedAndSplit();
-        rests();
-        shifts();
-        dearest();
-        noneAndBad();
+        Check.sentence("of two whole TUNES: not of a part", DistanceTest::wholeTunes);
+        Check.sentence("of two whole TUNES: of 24 NOTES each", DistanceTest::fullTunes);
+        Check.sentence("of two whole TUNES: empty ones", DistanceTest::emptyTunes);
+        Check.sentence("of two TUNES: of one and itself", DistanceTest::itself);
+        Check.sentence("of two TUNES: a is the first row, b the second", DistanceTest::order);
+        Check.sentence("by a SHIFT: 0", DistanceTest::shiftNought);
+        Check.sentence("by a SHIFT: -24 and 24", DistanceTest::shiftEnds);
+        Check.sentence("by PRICES as they are now", DistanceTest::pricesNow);
+        Check.sentence("NONE: a", DistanceTest::noneA);
+        Check.sentence("NONE: b", DistanceTest::noneB);
+        Check.sentence("NONE: without TUNES", DistanceTest::noTunes);
+        Check.sentence("BAD: it is below -24", DistanceTest::shiftTooSmall);
+        Check.sentence("BAD: it is above 24", DistanceTest::shiftTooLarge);
+        Check.sentence("a distance() changes nothing that was FOUND", DistanceTest::leavesFound);
         Check.end();
     }
 
-    /** Prices 0 to 4 that tell from a cost what it was for. */
-    private static TuneSearch priced(int pitch, int length, int aloneA, int aloneB, int rest) {
-        TuneSearch x = new TuneSearch();
-        x.price(0, pitch);
-        x.price(1, length);
-        x.price(2, aloneA);
-        x.price(3, aloneB);
-        x.price(4, rest);
+    private static TuneSearch withTwo() {
+        TuneSearch x = Runs.withTune(60, 1);
+        Runs.tune(x, 61, 1);
         return x;
     }
 
-    private static void stepsAlone() {
-        TuneSearch x = priced(1000, 1000, 3, 5, 1000);
-        Runs.tune(x);
-        Runs.tune(x, 60, 2, -1, 4);
-        Check.due("no notes to none", x.distance(0, 0, 0), 0);
-        Check.due("notes of A alone", x.distance(1, 0, 0), 18);
-        Check.due("notes of B alone", x.distance(0, 1, 0), 30);
-        Check.due("a tune to itself", x.distance(1, 1, 0), 0);
-    }
-
-    private static void stepsTogether() {
-        TuneSearch x = priced(7, 100, 1000, 1000, 1000);
-        Runs.tune(x, 60, 2);
-        Runs.tune(x, 63, 4);
-        Check.due("one with one", x.distance(0, 1, 0), 7 * 3 + 100 * 2);
-        Check.due("and back", x.distance(1, 0, 0), 7 * 3 + 100 * 2);
-        x.price(2, 1);
-        x.price(3, 1);
-        Check.due("both alone are cheaper", x.distance(0, 1, 0), 2 + 4);
-    }
-
-    private static void joinedAndSplit() {
-        TuneSearch x = priced(1, 10, 1000, 1000, 1000);
-        Runs.tune(x, 60, 8);
-        Runs.tune(x, 60, 2, 60, 2, 61, 2, 62, 2);
-        Runs.tune(x, 60, 2, 60, 2, 60, 2, 60, 1, 60, 1);
-        Check.due("one of A with four of B", x.distance(0, 1, 0), 3);
-        Check.due("four of A with one of B", x.distance(1, 0, 0), 3);
-        // Five can't be joined: one of them is taken alone.
-        Check.due("one of A with five of B", x.distance(0, 2, 0), 1000 + 10);
-        Check.due("five of A with one of B", x.distance(2, 0, 0), 1000 + 10);
-        Runs.tune(x, 60, 2, 60, 2);
-        Runs.tune(x, 60, 1, 60, 3);
-        // Two with two is no step: 2 with 1, 2 with 3.
-        Check.due("two with two", x.distance(3, 4, 0), 20);
-        Runs.tune(x, 50, 3, 60, 6);
-        Runs.tune(x, 50, 1, 50, 2, 60, 2, 60, 4);
-        Check.due("split twice", x.distance(5, 6, 0), 0);
-        Check.due("joined twice", x.distance(6, 5, 0), 0);
-    }
-
-    private static void rests() {
-        TuneSearch x = priced(1, 10, 1000, 1000, 7);
-        Runs.tune(x, -1, 4);
-        Runs.tune(x, -1, 3);
-        Runs.tune(x, 60, 4);
-        Runs.tune(x, -1, 2, 60, 1, -1, 1);
-        Check.due("rest with rest", x.distance(0, 1, 5), 10);
-        Check.due("rest with note", x.distance(0, 2, 5), 7);
-        Check.due("note with rest", x.distance(2, 0, 5), 7);
-        Check.due("rest with rest, note, rest", x.distance(0, 3, 0), 7);
-        Check.due("note with rest, note, rest", x.distance(2, 3, 0), 14);
-        Check.due("rest, note, rest with note", x.distance(3, 2, 2), 16);
-        Check.due("rest, note, rest with rest", x.distance(3, 0, 2), 7);
-    }
-
-    private static void shifts() {
-        TuneSearch x = priced(1, 10, 1000, 1000, 1000);
-        Runs.tune(x, 40, 1, 50, 1);
-        Runs.tune(x, 64, 1, 74, 1);
-        Check.due("24 more in A", x.distance(0, 1, 24), 0);
-        Check.due("24 less in A", x.distance(1, 0, -24), 0);
-        Check.due("24 less, not more", x.distance(0, 1, -24), 96);
-        Check.due("shift 3", x.distance(0, 1, 3), 42);
-    }
-
-    private static void dearest() {
-        TuneSearch x = priced(1000, 1000, 1000, 1000, 1000);
-        x.tune();
-        x.tune();
-        for (int n = 0; n < 24; n++) {
-            x.note(0, 0, 64);
-            x.note(1, 127, 64);
-        }
-        // Together a pair costs 1000 * 127 at shift 0, alone 2 * 64 * 1000: just dearer.
-        Check.due("24 pairs", x.distance(0, 1, 0), 24 * 127000);
-        Check.due("24 pairs, shift 24", x.distance(0, 1, 24), 24 * 103000);
-        Check.due("all alone", x.distance(0, 1, -24), 2 * 24 * 64000);
-        for (int k = 0; k < 5; k++) {
-            x.price(k, 0);
-        }
-        Check.due("all for nothing", x.distance(0, 1, 24), 0);
-    }
-
-    private static void noneAndBad() {
-        TuneSearch x = new TuneSearch();
-        Check.due("no tune at all", x.distance(0, 0, 0), TuneSearch.NONE);
+    private static void wholeTunes() {
+        TuneSearch x = Runs.withTune(70, 3, 60, 1, 70, 3);
         Runs.tune(x, 60, 1);
-        int[] none = {-1, 1, 8, Integer.MIN_VALUE, Integer.MAX_VALUE};
-        for (int t : none) {
+        Runs.prices(x, 100, 100, 1, 2, 100);
+        Check.due("distance(0, 1, 0)", x.distance(0, 1, 0), 6);
+        Check.due("distance(1, 0, 0)", x.distance(1, 0, 0), 12);
+    }
+
+    private static void fullTunes() {
+        TuneSearch x = Runs.withTune();
+        Runs.tune(x);
+        for (int n = 0; n < 24; n++) {
+            x.note(0, 2 * n, 1 + n);
+            x.note(1, 2 * n + 1, 1 + n);
+        }
+        Runs.prices(x, 1, 1000, 1000, 1000, 1000);
+        Check.due("distance(0, 1, 0)", x.distance(0, 1, 0), 24);
+        Check.due("distance(0, 1, 1)", x.distance(0, 1, 1), 0);
+    }
+
+    private static void emptyTunes() {
+        TuneSearch x = Runs.withTune();
+        Runs.tune(x, 60, 5);
+        Runs.tune(x);
+        Runs.prices(x, 9, 9, 2, 3, 9);
+        Check.due("distance(0, 2, 0)", x.distance(0, 2, 0), 0);
+        Check.due("distance(0, 1, 0)", x.distance(0, 1, 0), 15);
+        Check.due("distance(1, 0, 0)", x.distance(1, 0, 0), 10);
+    }
+
+    private static void itself() {
+        TuneSearch x = Runs.withTune(60, 5, -1, 2, 61, 3);
+        Runs.prices(x, 9, 1000, 1000, 1000, 1000);
+        Check.due("distance(0, 0, 0)", x.distance(0, 0, 0), 0);
+        Check.due("distance(0, 0, 1)", x.distance(0, 0, 1), 18);
+    }
+
+    private static void order() {
+        TuneSearch x = Runs.withTune(60, 1);
+        Runs.tune(x, 63, 1);
+        Runs.prices(x, 1, 100, 100, 100, 100);
+        Check.due("distance(0, 1, 3)", x.distance(0, 1, 3), 0);
+        Check.due("distance(1, 0, 3)", x.distance(1, 0, 3), 6);
+        Check.due("distance(1, 0, -3)", x.distance(1, 0, -3), 0);
+    }
+
+    private static void shiftNought() {
+        TuneSearch x = withTwo();
+        Check.due("distance(0, 1, 0)", x.distance(0, 1, 0), 1);
+        Check.due("distance(1, 1, 0)", x.distance(1, 1, 0), 0);
+    }
+
+    private static void shiftEnds() {
+        TuneSearch x = Runs.withTune(40, 1);
+        Runs.tune(x, 64, 1);
+        Runs.prices(x, 1, 100, 100, 100, 100);
+        Check.due("distance(0, 1, 24)", x.distance(0, 1, 24), 0);
+        Check.due("distance(0, 1, -24)", x.distance(0, 1, -24), 48);
+        Check.due("distance(1, 0, -24)", x.distance(1, 0, -24), 0);
+    }
+
+    private static void pricesNow() {
+        TuneSearch x = withTwo();
+        Runs.prices(x, 7, 100, 100, 100, 100);
+        Check.due("distance(0, 1, 0)", x.distance(0, 1, 0), 7);
+        x.price(0, 8);
+        Check.due("distance(0, 1, 0) by another price", x.distance(0, 1, 0), 8);
+    }
+
+    private static void noneA() {
+        TuneSearch x = withTwo();
+        for (int t : NO_TUNES) {
             Check.due("distance(" + t + ", 0, 0)", x.distance(t, 0, 0), TuneSearch.NONE);
+        }
+    }
+
+    private static void noneB() {
+        TuneSearch x = withTwo();
+        for (int t : NO_TUNES) {
             Check.due("distance(0, " + t + ", 0)", x.distance(0, t, 0), TuneSearch.NONE);
-            Check.due("distance(0, " + t + ", 25)", x.distance(0, t, 25), TuneSearch.NONE);
         }
-        int[] bad = {-25, 25, Integer.MIN_VALUE, Integer.MAX_VALUE};
-        for (int s : bad) {
-            Check.due("distance(0, 0, " + s + ")", x.distance(0, 0, s), TuneSearch.BAD);
+    }
+
+    private static void noTunes() {
+        TuneSearch x = new TuneSearch();
+        Check.due("distance(0, 0, 0)", x.distance(0, 0, 0), TuneSearch.NONE);
+        Check.due("distance(0, 0, 25)", x.distance(0, 0, 25), TuneSearch.NONE);
+    }
+
+    private static void shiftTooSmall() {
+        TuneSearch x = withTwo();
+        int[] bad = {-25, -26, Integer.MIN_VALUE};
+        for (int shift : bad) {
+            Check.due("distance(0, 1, " + shift + ")", x.distance(0, 1, shift), TuneSearch.BAD);
         }
-        Check.due("distance(0, 0, -24)", x.distance(0, 0, -24), 2);
-        Check.due("distance(0, 0, 24)", x.distance(0, 0, 24), 2);
+    }
+
+    private static void shiftTooLarge() {
+        TuneSearch x = withTwo();
+        int[] bad = {25, 26, Integer.MAX_VALUE};
+        for (int shift : bad) {
+            Check.due("distance(0, 1, " + shift + ")", x.distance(0, 1, shift), TuneSearch.BAD);
+        }
+    }
+
+    private static void leavesFound() {
+        TuneSearch x = withTwo();
+        x.query(61, 1);
+        x.near(0, 0);
+        x.families(0);
+        x.distance(0, 1, 5);
+        Check.due("found", Runs.found(x), "1:0:1:0:0");
+        Check.due("families", Runs.families(x), "0 1");
     }
 }
