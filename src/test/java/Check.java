@@ -52,7 +52,9 @@ final class Check {
         try {
             return Long.toString(made.answer());
         } catch (RuntimeException e) {
-            return "throws." + e.getClass().getSimpleName();
+            // The class of a division by 0 is one that the document names: only its text tells the machine's own.
+            String whose = "/ by zero".equals(e.getMessage()) ? " of the machine" : "";
+            return "throws." + e.getClass().getSimpleName() + whose;
         }
     }
 

@@ -33,6 +33,7 @@ public final class NearTest {
         Check.sentence("most: the greatest there is", NearTest::mostGreatest);
         Check.sentence("most: where the dearest QUERY costs just that", NearTest::mostDearest);
         Check.sentence("the cheapest of these", NearTest::cheapest);
+        Check.sentence("the cheapest of these: one that ends by NOTES of the TUNE alone", NearTest::cheapestEnding);
         Check.sentence("THE DISTANCE of THE QUERY and of the NOTES: in this order", NearTest::queryFirst);
         Check.sentence("THE DISTANCE: split, joined, left out, lacking", NearTest::everyStep);
         Check.sentence("THE DISTANCE of THE QUERY: an empty one", NearTest::emptyQuery);
@@ -228,6 +229,15 @@ public final class NearTest {
         // Behind 60: by -1 for nothing. Behind 61: a length that differs (10), no shift.
         Check.due("behind 60", costAt(x, 0, 1), 0);
         Check.due("behind 61", costAt(x, 0, 2), 10);
+    }
+
+    private static void cheapestEnding() {
+        TuneSearch x = Runs.withTune(69, 1, 120, 1, 120, 1);
+        Runs.prices(x, 1, 1, 10, 0, 1);
+        Runs.query(x, 60, 1);
+        x.near(9, 0);
+        // With 69 it costs 9, alone 10; behind 69 the other notes cost nothing.
+        Check.due("found", Runs.found(x), "0:0:1:9:0 0:0:2:9:0 0:0:3:9:0");
     }
 
     private static void queryFirst() {

@@ -16,6 +16,7 @@ public final class RowsTest {
         Check.sentence("1: an empty tape", RowsTest::emptyTape);
         Check.sentence("1: no word", RowsTest::noWord);
         Check.sentence("1: A new object: each for itself", RowsTest::eachForItself);
+        Check.sentence("An object is used for at most 512 calls: the 512th", RowsTest::call512);
     }
 
     private static void tunesAndNotes() {
@@ -102,6 +103,16 @@ public final class RowsTest {
         Check.due("price(0, 1) of the other", other.price(0, 1), 1);
         Runs.tune(other, 60, 1);
         Check.due("find(0) of the other", other.find(0), 0);
+    }
+
+    private static void call512() {
+        TuneSearch x = Runs.withTune(60, 1, 62, 1);
+        for (int call = 4; call <= 509; call++) {
+            x.type('.', 1);
+        }
+        Check.due("call 510, word() of 160 points", x.word(), -60);
+        Check.due("call 511, price(0, 5)", x.price(0, 5), 1);
+        Check.due("call 512, near(0, 24)", x.near(0, 24), 3);
     }
 
     private static void tuneOfNoNotes() {

@@ -1,3 +1,5 @@
+import java.util.Random;
+
 /** Terms, 4 CARRYING: a test for each sentence. */
 public final class TermsCarryingTest {
     public static void main(String[] args) {
@@ -20,6 +22,8 @@ public final class TermsCarryingTest {
         Check.sentence("each that is left: those that cost least to leave", TermsCarryingTest::leftDear);
         Check.sentence("the least cost of all: not the nearest for each", TermsCarryingTest::leastOfAll);
         Check.sentence("the least cost of all: those that go move on", TermsCarryingTest::moveOn);
+        Check.sentence("the least cost of all: no more move on than there are", TermsCarryingTest::moveOnAsFar);
+        Check.sentence("the least cost of all: against each way there is", TermsCarryingTest::againstEachWay);
         Check.sentence("the least cost of all: the greatest there is", TermsCarryingTest::greatest);
         Check.sentence("PRICES 0 to 4 are not of it", TermsCarryingTest::otherPrices);
         Check.end();
@@ -187,6 +191,65 @@ public final class TermsCarryingTest {
         Runs.tune(y, 50, 1, -1, 6, 60, 3);
         // One unit goes to 50 (10 lower), two go to 60 (7 behind), one is left.
         dueBothWays(y, 0, 1, 10 + 2 * 7000 + 1);
+    }
+
+    private static void moveOnAsFar() {
+        TuneSearch x = priced(0, 1, 0);
+        Runs.tune(x, 24, 3, 14, 1, 5, 3);
+        Runs.tune(x, 10, 1, 20, 3, 30, 10);
+        // One unit of 5 goes to 10, two go to 20; 14 goes to 20 then, and all of 24 to 30.
+        dueBothWays(x, 0, 1, 5 + 2 * 15 + 6 + 3 * 6);
+    }
+
+    private static void againstEachWay() {
+        Random random = new Random(4);
+        for (int run = 0; run < 400; run++) {
+            TuneSearch x = priced(random.nextInt(3), random.nextInt(3), random.nextInt(9));
+            int[][] fewer = unitsOf(x, random, 2 + random.nextInt(6));
+            int[][] more = unitsOf(x, random, fewer.length + random.nextInt(2));
+            int[] prices = {x.price(5, 1), x.price(6, 1), x.price(7, 1)};
+            Runs.carryPrices(x, prices[0], prices[1], prices[2]);
+            int left = prices[2] * (more.length - fewer.length);
+            dueBothWays(x, 0, 1, left + leastOfEachWay(fewer, more, 0, new boolean[more.length], prices));
+        }
+    }
+
+    /** Makes a tune of so many units in notes of 1 to 3, and answers each unit's begin and pitch. */
+    private static int[][] unitsOf(TuneSearch x, Random random, int count) {
+        int[][] units = new int[count][];
+        int t = x.tune();
+        int begin = 0;
+        for (int u = 0; u < count;) {
+            int pitch = 60 + random.nextInt(12);
+            int length = Math.min(1 + random.nextInt(3), count - u);
+            x.note(t, pitch, length);
+            for (int k = 0; k < length; k++) {
+                units[u++] = new int[] {begin, pitch};
+            }
+            begin += length;
+            if (random.nextInt(3) == 0) {
+                x.note(t, -1, 2);
+                begin += 2;
+            }
+        }
+        return units;
+    }
+
+    /** Tries each free unit of the second one for each unit of the first one, from the u-th on. */
+    private static int leastOfEachWay(int[][] from, int[][] to, int u, boolean[] taken, int[] prices) {
+        if (u == from.length) {
+            return 0;
+        }
+        int least = Integer.MAX_VALUE;
+        for (int k = 0; k < to.length; k++) {
+            if (!taken[k]) {
+                taken[k] = true;
+                int cost = prices[0] * Math.abs(from[u][0] - to[k][0]) + prices[1] * Math.abs(from[u][1] - to[k][1]);
+                least = Math.min(least, cost + leastOfEachWay(from, to, u + 1, taken, prices));
+                taken[k] = false;
+            }
+        }
+        return least;
     }
 
     private static void greatest() {

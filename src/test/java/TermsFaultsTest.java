@@ -35,6 +35,7 @@ public final class TermsFaultsTest {
         Check.sentence("2 a TOKEN that can't come: at the beginning", TermsFaultsTest::cantBegin);
         Check.sentence("2 a TOKEN that can't come: * + ? behind one of these", TermsFaultsTest::repeatTwice);
         Check.sentence("2 a TOKEN that can't come: * + ? behind | or (", TermsFaultsTest::repeatOfNothing);
+        Check.sentence("2 a TOKEN that can't come: * + ? behind a text with a FAULT", TermsFaultsTest::repeatOfFormer);
         Check.sentence("2 a TOKEN that can't come: ) without (", TermsFaultsTest::closeWithout);
         Check.sentence("2 a TOKEN that can't come: , and ] outside of [ ]", TermsFaultsTest::outsideOfRange);
         Check.sentence("2 a TOKEN that can't come: behind [", TermsFaultsTest::behindOpen);
@@ -190,6 +191,19 @@ public final class TermsFaultsTest {
         Words.dueFault("1|+", 2, 2);
         Words.dueFault("(*)", 1, 2);
         Words.dueFault("1(?)", 2, 2);
+    }
+
+    private static void repeatOfFormer() {
+        TuneSearch x = new TuneSearch();
+        Runs.word(x, "1a");
+        Check.due("word() of '*' behind '1a'", Runs.word(x, "*"), -10);
+        Check.due("its fault", x.fault(), 2);
+        Runs.word(x, "(1a");
+        Check.due("word() of '(*' behind '(1a'", Runs.word(x, "(*"), -11);
+        Check.due("its fault", x.fault(), 2);
+        Runs.word(x, "[1,a");
+        Check.due("word() of '2]' behind '[1,a'", Runs.word(x, "2]"), -11);
+        Check.due("its fault", x.fault(), 2);
     }
 
     private static void closeWithout() {

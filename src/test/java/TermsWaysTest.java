@@ -1,3 +1,6 @@
+import java.util.Arrays;
+import java.util.Random;
+
 /** Terms, 3 WAYS: a test for each sentence. */
 public final class TermsWaysTest {
     public static void main(String[] args) {
@@ -50,6 +53,7 @@ public final class TermsWaysTest {
         Check.sentence("the sum of its STEPS: of none", TermsWaysTest::noSteps);
         Check.sentence("the sum of its STEPS: the dearest", TermsWaysTest::dearest);
         Check.sentence("THE DISTANCE of A and B by s is the least", TermsWaysTest::least);
+        Check.sentence("THE DISTANCE .. is the least: against each WAY there is", TermsWaysTest::againstEachWay);
         Check.sentence("THE DISTANCE .. is the least: of like ones", TermsWaysTest::leastOfLike);
         Check.sentence("THE DISTANCE .. is the least: all for nothing", TermsWaysTest::leastOfNothing);
     }
@@ -357,6 +361,68 @@ public final class TermsWaysTest {
         dueDistance(x, 0, 2, 0, 4);
         // Both alone cost 4, together they'd cost 5.
         dueDistance(x, 0, 3, 0, 4);
+    }
+
+    private static void againstEachWay() {
+        Random random = new Random(3);
+        for (int run = 0; run < 300; run++) {
+            int[] prices = random.ints(5, 0, 9).toArray();
+            TuneSearch x = priced(prices[0], prices[1], prices[2], prices[3], prices[4]);
+            int[][] a = notesOf(x, random, random.nextInt(6));
+            int[][] b = notesOf(x, random, random.nextInt(6));
+            int shift = random.nextInt(7) - 3;
+            dueDistance(x, 0, 1, shift, leastFrom(a, b, shift, prices));
+        }
+    }
+
+    /** Makes a tune of so many notes, and answers each one's pitch and length. */
+    private static int[][] notesOf(TuneSearch x, Random random, int count) {
+        int[][] notes = new int[count][];
+        int t = x.tune();
+        for (int n = 0; n < count; n++) {
+            notes[n] = new int[] {random.nextInt(5) == 0 ? -1 : 60 + random.nextInt(6), 1 + random.nextInt(6)};
+            x.note(t, notes[n][0], notes[n][1]);
+        }
+        return notes;
+    }
+
+    /** Tries each step that can come first, and each way behind it. */
+    private static int leastFrom(int[][] a, int[][] b, int shift, int[] prices) {
+        int least = a.length == 0 && b.length == 0 ? 0 : Integer.MAX_VALUE;
+        for (int i = 0; i <= Math.min(4, a.length); i++) {
+            for (int j = 0; j <= Math.min(4, b.length); j++) {
+                if (i == 1 || j == 1) {
+                    int behind = leastFrom(from(a, i), from(b, j), shift, prices);
+                    least = Math.min(least, behind + stepCost(a, i, b, j, shift, prices));
+                }
+            }
+        }
+        return least;
+    }
+
+    private static int[][] from(int[][] notes, int first) {
+        return Arrays.copyOfRange(notes, first, notes.length);
+    }
+
+    private static int stepCost(int[][] a, int i, int[][] b, int j, int shift, int[] prices) {
+        if (i == 0 || j == 0) {
+            return i == 1 ? prices[2] * a[0][1] : prices[3] * b[0][1];
+        }
+        int cost = 0;
+        int apart = 0;
+        for (int p = 0; p < i; p++) {
+            apart += a[p][1];
+            for (int q = 0; q < j; q++) {
+                boolean restInA = a[p][0] == -1;
+                boolean restInB = b[q][0] == -1;
+                int notes = prices[0] * Math.abs(a[p][0] + shift - b[q][0]);
+                cost += restInA && restInB ? 0 : restInA || restInB ? prices[4] : notes;
+            }
+        }
+        for (int q = 0; q < j; q++) {
+            apart -= b[q][1];
+        }
+        return cost + prices[1] * Math.abs(apart);
     }
 
     private static void leastOfLike() {

@@ -54,6 +54,7 @@ public final class TermsWordsTest {
         Check.sentence("a seq one row of each item: of none", TermsWordsTest::seqOfNone);
         Check.sentence("| one of both", TermsWordsTest::choice);
         Check.sentence("| one of both: one of them of no items", TermsWordsTest::choiceOfNone);
+        Check.sentence("| one of both: both begin alike, or end alike", TermsWordsTest::choiceOfLike);
         Check.sentence("| one of both: not of the items beside it alone", TermsWordsTest::choiceOfSeqs);
         Check.sentence("* any number of rows of the atom", TermsWordsTest::star);
         Check.sentence("* .. none, too", TermsWordsTest::starNone);
@@ -68,6 +69,7 @@ public final class TermsWordsTest {
         Check.sentence("? or none", TermsWordsTest::maybeNone);
         Check.sentence("? one, or none: not two", TermsWordsTest::maybeTwo);
         Check.sentence("* + ? of ( ) of no SIGN", TermsWordsTest::repeatsOfEmpty);
+        Check.sentence("( alt ) one row of it: not none", TermsWordsTest::groupOnce);
         Check.sentence("( alt ) within ( alt )", TermsWordsTest::groupsWithin);
     }
 
@@ -340,6 +342,17 @@ public final class TermsWordsTest {
         Words.dueStandsFor("|60", true, 60);
     }
 
+    private static void choiceOfLike() {
+        Words.dueStandsFor("60 61|60 62", true, 60, 61);
+        Words.dueStandsFor("60 61|60 62", true, 60, 62);
+        Words.dueStandsFor("60 61|60 62", false, 60, 61, 62);
+        Words.dueStandsFor("(60 61|. 62)63", true, 60, 61, 63);
+        Words.dueStandsFor("(60 61|. 62)63", true, 60, 62, 63);
+        Words.dueStandsFor("60 61|62 61", true, 60, 61);
+        Words.dueStandsFor("60 61|62 61", true, 62, 61);
+        Words.dueStandsFor("60|60", true, 60);
+    }
+
     private static void choiceOfSeqs() {
         Words.dueStandsFor("60 61|62 63", true, 60, 61);
         Words.dueStandsFor("60 61|62 63", true, 62, 63);
@@ -428,6 +441,15 @@ public final class TermsWordsTest {
         }
         Words.dueStandsFor("(()|60)* 61", true, 60, 60, 61);
         Words.dueStandsFor("((60*)* 61?)*", true, 60, 61, 60, 60);
+    }
+
+    private static void groupOnce() {
+        Words.dueStandsFor("60(61)62", true, 60, 61, 62);
+        Words.dueStandsFor("60(61)62", false, 60, 62);
+        Words.dueStandsFor("60(61)62", false, 60, 61, 61, 62);
+        Words.dueStandsFor("(60)61", false, 61);
+        Words.dueStandsFor("60(61|62)", false, 60);
+        Words.dueStandsFor("(60|61)+ 62", false, 62);
     }
 
     private static void groupsWithin() {

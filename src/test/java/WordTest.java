@@ -28,6 +28,7 @@ public final class WordTest {
         Check.sentence("8: The tape becomes the word", WordTest::becomesWord);
         Check.sentence("8: The tape becomes the word: an empty tape", WordTest::emptyTape);
         Check.sentence("8: The tape becomes the word: in place of the one before", WordTest::replacesWord);
+        Check.sentence("8: The tape becomes the word: nothing of those before", WordTest::nothingOfBefore);
         Check.sentence("8: is empty then", WordTest::emptyThen);
         Check.sentence("8: is empty then in any case: with a FAULT", WordTest::emptyInAnyCase);
         Check.sentence("8: is empty then: it takes 160 bytes again", WordTest::roomAgain);
@@ -188,6 +189,16 @@ public final class WordTest {
         Words.dueFinds(x, "62", 0, "1:1");
         Words.dueFinds(x, "r", 0, "2:1");
         Words.dueFinds(x, "60", 0, "0:1");
+    }
+
+    private static void nothingOfBefore() {
+        TuneSearch x = Runs.withTune(60, 1, 62, 1, -1, 1);
+        Words.dueFinds(x, "60 62+ r*", 0, "0:3");
+        Words.dueFinds(x, "60 62+ r*", 0, "0:3");
+        Words.dueFinds(x, "60|62|r", 0, "0:1 1:1 2:1");
+        Words.dueFinds(x, "60 62+ r*", 0, "0:3");
+        Runs.word(x, "60 62+ r*)");
+        Words.dueFinds(x, "60|62|r", 0, "0:1 1:1 2:1");
     }
 
     private static void emptyThen() {
